@@ -44,7 +44,7 @@ public final class PeriodTables {
     private final Line line = new Line();
     private final Line flags = new Line();
     private final Stretches stretches = new Stretches();
-    private final Formula formula = new Formula(text, now.first);
+    private final Formula formula = new Formula();
     private int drawn;
 
     public PeriodTables() {
@@ -758,7 +758,7 @@ public final class PeriodTables {
 
     public int where(int table) {
         int answer = NONE;
-        int fault = formula.faultAt();
+        int fault = formula.faultOf(text);
         if (fault >= 0) {
             answer = NO_FORMULA - fault;
         } else if (isTable(table)) {
@@ -838,34 +838,21 @@ public final class PeriodTables {
     }
 
     public int fits() {
-        int bits = 0;
-        int fitting = 0;
-        for (int i = 0; i < now.first.size; i++) {
-            if (fitsAll(i)) {
-                bits |= 1 << i;
-                fitting++;
-            }
-        }
-        told.tell(fitting);
+        int bits = rowsThatFit();
+        told.tell(Integer.bitCount(bits));
         return bits;
     }
 
     public int asks() {
-        int fitting = 0;
-        int bits = 0;
-        for (int i = 0; i < now.first.size; i++) {
-            if (fitsAll(i)) {
-                bits |= 1 << i;
-                fitting++;
-            }
-        }
+        int bits = rowsThatFit();
+        int fitting = Integer.bitCount(bits);
         if (fitting == 0) {
             return -2;
         }
         int best = 0;
         int fewest = fitting + 1;
         for (int question = 0; question < QUESTIONS; question++) {
-            int so = howManySo(bits, question);
+            int so = Integer.bitCount(bits & rowsOfWhich(question));
             int most = Math.max(so, fitting - so);
             if (most < fewest) {
                 best = question;
@@ -876,22 +863,22 @@ public final class PeriodTables {
         return best;
     }
 
-    private int howManySo(int bits, int question) {
-        int so = 0;
-        for (int i = 0; i < now.first.size; i++) {
-            if ((bits >> i & 1) == 1 && isSo(i, question)) {
-                so++;
-            }
+    private int rowsThatFit() {
+        int bits = (1 << now.first.size) - 1;
+        for (int k = 0; k < rumours.size; k++) {
+            bits &= rowsOfWhich(rumours.questionAt(k));
         }
-        return so;
+        return bits;
     }
 
-    private boolean fitsAll(int i) {
-        boolean all = true;
-        for (int k = 0; k < rumours.size; k++) {
-            all = all && isSo(i, rumours.questionAt(k));
+    private int rowsOfWhich(int question) {
+        int bits = 0;
+        for (int i = 0; i < now.first.size; i++) {
+            if (isSo(i, question)) {
+                bits |= 1 << i;
+            }
         }
-        return all;
+        return bits;
     }
 
     private boolean isSo(int i, int question) {
@@ -916,13 +903,14 @@ public final class PeriodTables {
         }
         drawn = seed;
         for (int turn = 0; turn < n; turn++) {
-            doDrawnAct();
+            past.prepare(now);
+            noted(doDrawnAct());
         }
         told.tell(now.first.allDays() + now.second.allDays(), now.first.fromTimesValue() + now.second.fromTimesValue());
         return now.first.size + now.second.size;
     }
 
-    private void doDrawnAct() {
+    private int doDrawnAct() {
         int act = draw(6);
         int table = draw(2);
         int key = draw(KEYS);
@@ -930,20 +918,15 @@ public final class PeriodTables {
         int to = Math.min(DAYS, from + draw(20) + 1);
         switch (act) {
             case 2:
-                sets(table, key, draw(VALUES), from, to);
-                break;
+                return setValue(table, key, draw(VALUES), from, to);
             case 3:
-                refers(key, draw(NO_REF + 1), from, to);
-                break;
+                return setRef(key, draw(NO_REF + 1), from, to);
             case 4:
-                cuts(table, key, from, to);
-                break;
+                return cutPeriod(table, key, from, to);
             case 5:
-                joins(table);
-                break;
+                return joinAlike(table);
             default:
-                adds(table, key, draw(VALUES), from, to);
-                break;
+                return addRow(table, key, draw(VALUES), from, to);
         }
     }
 
@@ -1553,37 +1536,46 @@ public final class PeriodTables {
         private static final int DEPTH_MOST = 4;
         private static final int DIGITS_MOST = 3;
         private static final int FINE = -1;
+        // The cells in their order, then how many days, then the row's number.
+        private static final String LETTERS = "kvftrli";
+        private static final int THINGS = CELLS + 2;
 
-        private final Text text;
-        private Table table;
-        private int number;
+        private final char[] signs = new char[SIGNS_MOST];
+        private final int[] things = new int[THINGS];
+        private int size;
         private int place;
         private int fault;
 
-        private Formula(Text text, Table table) {
-            this.text = text;
-            this.table = table;
-        }
-
         /** The first place whose sign can't stand there (or its end); FINE: all can. */
-        private int faultAt() {
-            valueOf(table, NONE);
-            if (fault == FINE && (place < text.size || text.size > SIGNS_MOST)) {
+        private int faultOf(Text text) {
+            size = Math.min(SIGNS_MOST, text.size);
+            for (int i = 0; i < size; i++) {
+                signs[i] = (char) text.signAt(i);
+            }
+            evaluate();
+            if (fault == FINE && place < text.size) {
                 fault = place;
             }
             return fault;
         }
 
-        private int valueOf(Table source, int i) {
-            table = source;
-            number = i;
+        private int valueOf(Table table, int i) {
+            for (int what = 0; what < CELLS; what++) {
+                things[what] = table.cell(i, what);
+            }
+            things[CELLS] = table.daysOfRow(i);
+            things[CELLS + 1] = i;
+            return evaluate();
+        }
+
+        private int evaluate() {
             place = 0;
             fault = FINE;
             return comparison(0);
         }
 
         private int peek() {
-            return fault == FINE && place < SIGNS_MOST ? text.signAt(place) : Text.NO_SIGN;
+            return fault == FINE && place < size && place < SIGNS_MOST ? signs[place] : Text.NO_SIGN;
         }
 
         private int fail() {
@@ -1651,11 +1643,7 @@ public final class PeriodTables {
                 place++;
                 return value;
             }
-            int value = ofRow(sign);
-            if (fault == FINE) {
-                place++;
-            }
-            return value;
+            return ofRow(sign);
         }
 
         private int digits() {
@@ -1668,24 +1656,12 @@ public final class PeriodTables {
         }
 
         private int ofRow(int letter) {
-            switch (letter) {
-                case 'k':
-                    return table.cell(number, KEY);
-                case 'v':
-                    return table.cell(number, VALUE);
-                case 'r':
-                    return table.cell(number, REF);
-                case 'f':
-                    return table.cell(number, FROM);
-                case 't':
-                    return table.cell(number, TO);
-                case 'l':
-                    return table.daysOfRow(number);
-                case 'i':
-                    return number;
-                default:
-                    return fail();
+            int which = letter == Text.NO_SIGN ? -1 : LETTERS.indexOf((char) letter);
+            if (which < 0 || which >= THINGS) {
+                return fail();
             }
+            place++;
+            return things[which];
         }
     }
 }
