@@ -757,20 +757,16 @@ public final class PeriodTables {
     // ---- conditions
 
     public int where(int table) {
-        int answer = NONE;
         int fault = formula.faultOf(text);
-        if (fault >= 0) {
-            answer = NO_FORMULA - fault;
-        } else if (isTable(table)) {
-            answer = rowsFound(now.table(table));
-        }
         text.clear();
-        return answer;
-    }
-
-    private int rowsFound(Table source) {
+        if (fault >= 0) {
+            return NO_FORMULA - fault;
+        }
+        if (!isTable(table)) {
+            return NONE;
+        }
+        Table source = now.table(table);
         int bits = 0;
-        int found = 0;
         int days = 0;
         int sum = 0;
         for (int i = 0; i < source.size; i++) {
@@ -778,11 +774,10 @@ public final class PeriodTables {
             sum += value;
             if (value > 0) {
                 bits |= 1 << i;
-                found++;
                 days += source.daysOfRow(i);
             }
         }
-        told.tell(found, days, sum);
+        told.tell(Integer.bitCount(bits), days, sum);
         return bits;
     }
 
@@ -1552,7 +1547,8 @@ public final class PeriodTables {
             for (int i = 0; i < size; i++) {
                 signs[i] = (char) text.signAt(i);
             }
-            evaluate();
+            rewind();
+            comparison(0);
             if (fault == FINE && place < text.size) {
                 fault = place;
             }
@@ -1565,24 +1561,23 @@ public final class PeriodTables {
             }
             things[CELLS] = table.daysOfRow(i);
             things[CELLS + 1] = i;
-            return evaluate();
+            rewind();
+            return comparison(0);
         }
 
-        private int evaluate() {
+        private void rewind() {
             place = 0;
             fault = FINE;
-            return comparison(0);
         }
 
         private int peek() {
             return fault == FINE && place < size && place < SIGNS_MOST ? signs[place] : Text.NO_SIGN;
         }
 
-        private int fail() {
+        private void fail() {
             if (fault == FINE) {
                 fault = place;
             }
-            return 0;
         }
 
         private int comparison(int depth) {
@@ -1609,41 +1604,37 @@ public final class PeriodTables {
         }
 
         private int product(int depth) {
-            int total = signedThing(depth);
+            int total = thing(depth);
             for (int turn = 0; turn < SIGNS_MOST && (peek() == '*' || peek() == '/'); turn++) {
                 boolean times = peek() == '*';
                 place++;
-                int next = signedThing(depth);
+                int next = thing(depth);
                 total = times ? total * next : next == 0 ? 0 : total / next;
             }
             return total;
         }
 
-        private int signedThing(int depth) {
+        private int thing(int depth) {
             boolean negative = false;
             for (int turn = 0; turn < SIGNS_MOST && peek() == '-'; turn++) {
                 negative = !negative;
                 place++;
             }
-            int value = thing(depth);
-            return negative ? -value : value;
-        }
-
-        private int thing(int depth) {
             int sign = peek();
+            int value;
             if (sign >= '0' && sign <= '9') {
-                return digits();
-            }
-            if (sign == '(' && depth < DEPTH_MOST) {
+                value = digits();
+            } else if (sign == '(' && depth < DEPTH_MOST) {
                 place++;
-                int value = comparison(depth + 1);
+                value = comparison(depth + 1);
                 if (peek() != ')') {
-                    return fail();
+                    fail();
                 }
                 place++;
-                return value;
+            } else {
+                value = ofRow(sign);
             }
-            return ofRow(sign);
+            return negative ? -value : value;
         }
 
         private int digits() {
@@ -1658,7 +1649,8 @@ public final class PeriodTables {
         private int ofRow(int letter) {
             int which = letter == Text.NO_SIGN ? -1 : LETTERS.indexOf((char) letter);
             if (which < 0 || which >= THINGS) {
-                return fail();
+                fail();
+                return 0;
             }
             place++;
             return things[which];

@@ -12,6 +12,7 @@ public final class ActsTest {
         way();
         tooManyRows();
         tooManyByWay();
+        farTooMany();
         wrongArguments();
         Due.finish("ActsTest");
     }
@@ -134,6 +135,14 @@ public final class ActsTest {
         Due.row(x, "cuts() by WAY 2", 5, 10);
         Due.is("cuts() of TABLE 0 ask no WAY", 3, x.cuts(0, 1, 0, 30));
         Due.row(x, "cuts()", 20, 0);
+        x = referring();
+        x.way(2);
+        x.cuts(0, 2, 0, 100);
+        x.cuts(1, 7, 20, 21);
+        x.cuts(1, 7, 22, 23);
+        Due.row(x, "cuts() of one day", 1, 1);
+        Due.table(x, "of one day each", 0, 1, 10, 10, 20, 7, 1, 10, 20, 21, 10, 1, 10, 21, 22, 7, 1, 10, 22, 23, 10,
+                1, 10, 23, 50, 7, 3, 30, 0, 100, 10);
     }
 
     private static void shifts() {
@@ -271,6 +280,32 @@ public final class ActsTest {
         x.way(1);
         Due.is("by WAY 1 it would not", 1, x.cuts(1, 0, 0, 1));
         Due.row(x, "cuts()", 1, 1);
+    }
+
+    /** Far more rows than a table may have: ten rows, each split in three, or in twenty. */
+    private static void farTooMany() {
+        PeriodTables x = new PeriodTables();
+        for (int i = 0; i < 19; i++) {
+            x.adds(1, 0, 1, 2 * i, 2 * i + 1);
+        }
+        x.adds(1, 0, 1, 40, 60);
+        for (int key = 0; key < 10; key++) {
+            x.adds(0, key, key, 40, 60);
+            x.refers(key, 0, 40, 60);
+        }
+        Due.is("not HELD ahead of that", -4, x.shifts(1, 0, 38));
+        Due.is("not HELD ahead of that", -3, x.cuts(1, 0, 50, 51));
+        x.way(2);
+        Due.is("200 rows", -9, x.shifts(1, 0, 38));
+        Due.is("30 rows", -9, x.cuts(1, 0, 50, 51));
+        x.way(1);
+        Due.is("100 rows", -9, x.shifts(1, 0, 38));
+        Due.is("21 rows of TABLE 1", -9, x.cuts(1, 0, 50, 51));
+        x.cuts(1, 0, 0, 5);
+        Due.is("20 rows of TABLE 0", 1, x.cuts(1, 0, 50, 51));
+        Due.row(x, "cuts()", 1, 10);
+        Due.is("20 rows", 20, x.count(0));
+        Due.is("HELD", 200 - 10, x.drags(0, 0, 100));
     }
 
     private static void wrongArguments() {

@@ -9,6 +9,7 @@ public final class BothTest {
         meets();
         meetsAlike();
         lacks();
+        keyNought();
         either();
         sums();
         mean();
@@ -89,6 +90,19 @@ public final class BothTest {
         x.adds(1, 4, 0, 60, 100);
         Due.is("none", 0, x.lacks(0));
         Due.row(x, "lacks()", 0);
+    }
+
+    private static void keyNought() {
+        PeriodTables x = new PeriodTables();
+        x.adds(0, 0, 5, 0, 1);
+        x.adds(0, 1, 5, 1, 2);
+        x.adds(1, 9, 5, 99, 100);
+        Due.is("lacks() of KEYS 0 and 1", 2, x.lacks(0));
+        Due.row(x, "lacks()", 2, 0, 0, 1);
+        Due.is("lacks() of KEY 9", 1, x.lacks(1));
+        Due.row(x, "lacks()", 1, 9, 99, 100);
+        Due.is("either() of KEYS 0, 1 and 9", 3, x.either());
+        Due.row(x, "either()", 3, 0);
     }
 
     private static void either() {
@@ -200,11 +214,23 @@ public final class BothTest {
         Due.row(x, "users()", 20, 1);
         Due.is("none any more", 0, x.users(4));
         Due.row(x, "users()", 0, 2);
+        x = new PeriodTables();
+        x.adds(1, 0, 0, 5, 10);
+        x.adds(1, 0, 0, 0, 5);
+        x.adds(0, 0, 0, 0, 100);
+        x.refers(0, 0, 5, 6);
+        Due.is("at its first day, behind a row's last", 1, x.users(0));
+        Due.row(x, "users()", 1, 1);
+        x.refers(0, 0, 0, 1);
+        Due.is("at day 0", 2, x.users(0));
+        Due.row(x, "users()", 2, 0);
     }
 
     private static void drags() {
         PeriodTables x = some();
         Due.is("of two rows' one", 10, x.drags(2, 30, 100));
+        Due.row(x, "drags()", 1);
+        Due.is("one day", 1, x.drags(2, 39, 60));
         Due.row(x, "drags()", 1);
         Due.is("nothing refers there", 0, x.drags(2, 40, 60));
         Due.row(x, "drags()", 0);

@@ -84,6 +84,11 @@ public final class DaysTest {
         Due.row(x, "gaps()", 9, 10);
         Due.is("never there", 100, x.gaps(1, 3, 0, 100));
         Due.row(x, "gaps()", 0, 100);
+        Due.is("behind the first ROW", 99, x.gaps(0, 0, 0, 100));
+        Due.row(x, "gaps()", 1, 100);
+        x.shifts(0, 0, 5);
+        Due.is("ahead of the first ROW", 99, x.gaps(0, 0, 0, 100));
+        Due.row(x, "gaps()", 0, 5);
     }
 
     private static void covers() {

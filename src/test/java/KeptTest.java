@@ -37,6 +37,9 @@ public final class KeptTest {
         x.adds(0, 3, 30, 10, 20);
         x.adds(0, 4, 0, 15, 25);
         x.keep(0);
+        x.sets(0, 3, 31, 13, 14);
+        Due.is("one day", 1, x.differs(0, 0));
+        Due.row(x, "differs()", 13);
         x.sets(0, 3, 31, 12, 14);
         Due.is("VALUE is another one", 2, x.differs(0, 0));
         Due.row(x, "differs()", 12);
@@ -63,6 +66,11 @@ public final class KeptTest {
         x.adds(0, 3, 29, 10, 20);
         x.sets(0, 4, 1, 24, 25);
         Due.is("sums that are the same", 11, x.differs(0, 0));
+        x = new PeriodTables();
+        x.keep(0);
+        x.adds(0, 0, 1, 99, 100);
+        Due.is("KEY 0, VALUE 1, the last day", 1, x.differs(0, 0));
+        Due.row(x, "differs()", 99);
     }
 
     private static void keepAndAgain() {

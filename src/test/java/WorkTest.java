@@ -35,6 +35,9 @@ public final class WorkTest {
         Due.row(x, "work()", 0, 7);
         Due.is("j", 1, work(x, "j0"));
         Due.row(x, "work()", 0, 7);
+        Due.is("r behind another act", 2, work(x, "j1r3103237"));
+        Due.is("VALUE", 11, x.at(0, 3, 31));
+        Due.row(x, "at()", 5, 30, 32);
     }
 
     private static void toHundred() {

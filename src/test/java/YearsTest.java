@@ -40,7 +40,8 @@ public final class YearsTest {
         x.adds(1, 5, 0, 0, 50);
         x.adds(0, 5, 0, 1, 31);
         Due.is("TABLE 1, left aside: refers(5, 5, 3, 21)", 11, x.years(12, 1));
-        Due.is("REF", 5, x.at(0, 5, 20) + x.row(0));
+        Due.is("VALUE", 0, x.at(0, 5, 20));
+        Due.row(x, "at()", 5, 3, 21);
         x.adds(1, 7, 1, 0, 100);
         Due.is("cuts(1, 7, 82, 88)", 13, x.years(2, 1));
         Due.table(x, "behind years()", 1, 5, 0, 0, 50, 10, 5, 96, 80, 91, 10, 7, 1, 0, 82, 10, 7, 1, 88, 100, 10);
