@@ -898,14 +898,14 @@ public final class PeriodTables {
         }
         drawn = seed;
         for (int turn = 0; turn < n; turn++) {
-            past.prepare(now);
-            noted(doDrawnAct());
+            doDrawnAct();
         }
         told.tell(now.first.allDays() + now.second.allDays(), now.first.fromTimesValue() + now.second.fromTimesValue());
         return now.first.size + now.second.size;
     }
 
-    private int doDrawnAct() {
+    /** What is drawn can't be undone: only the calls that promise 14 names are noted in the past. */
+    private void doDrawnAct() {
         int act = draw(6);
         int table = draw(2);
         int key = draw(KEYS);
@@ -913,15 +913,20 @@ public final class PeriodTables {
         int to = Math.min(DAYS, from + draw(20) + 1);
         switch (act) {
             case 2:
-                return setValue(table, key, draw(VALUES), from, to);
+                setValue(table, key, draw(VALUES), from, to);
+                break;
             case 3:
-                return setRef(key, draw(NO_REF + 1), from, to);
+                setRef(key, draw(NO_REF + 1), from, to);
+                break;
             case 4:
-                return cutPeriod(table, key, from, to);
+                cutPeriod(table, key, from, to);
+                break;
             case 5:
-                return joinAlike(table);
+                joinAlike(table);
+                break;
             default:
-                return addRow(table, key, draw(VALUES), from, to);
+                addRow(table, key, draw(VALUES), from, to);
+                break;
         }
     }
 

@@ -24,7 +24,7 @@ final class SlowTables {
     private String text = "";
     List<Long> told = new ArrayList<>();
     private final List<int[]> rumours = new ArrayList<>();
-    private boolean inWork = false;
+    private boolean notNoted = false;
 
     // Helpers.
 
@@ -87,7 +87,7 @@ final class SlowTables {
             }
             table.sort(Comparator.<int[]>comparingInt(r -> r[0]).thenComparingInt(r -> r[2]));
         }
-        if (!inWork) {
+        if (!notNoted) {
             remember(new Snapshot(copy(tables), way));
         }
         tables = next;
@@ -345,7 +345,7 @@ final class SlowTables {
             }
         }
         Snapshot ahead = new Snapshot(copy(tables), way);
-        inWork = true;
+        notNoted = true;
         int count = 0;
         int refused = 0;
         for (int p = 0; p < told.length() && refused == 0;) {
@@ -360,7 +360,7 @@ final class SlowTables {
             }
             p = next;
         }
-        inWork = false;
+        notNoted = false;
         if (count > 0) {
             remember(ahead);
         }
@@ -897,6 +897,7 @@ final class SlowTables {
             r[0] = (r[0] * 1103515245L + 12345L) % (1L << 32);
             return r[0] / 65536;
         };
+        notNoted = true;
         for (int i = 0; i < n; i++) {
             int act = (int) (next.get() % 6);
             int table = (int) (next.get() % 2);
@@ -911,6 +912,7 @@ final class SlowTables {
                 default -> joins(table);
             }
         }
+        notNoted = false;
         int sum = 0;
         for (List<int[]> table : tables) {
             for (int[] row : table) {

@@ -7,6 +7,7 @@ public final class YearsTest {
         oneYear();
         sameAsActs();
         undone();
+        undoneToYears();
         Due.finish("YearsTest");
     }
 
@@ -112,17 +113,43 @@ public final class YearsTest {
                 }
             }
         }
-        Due.is("what can be undone", y.count(7), x.count(7));
     }
 
-    /** Each act that was done is an adds(), sets(), .. as any other: they are undone one by one. */
+    /** years() is not among what can be undone; an undo() of what was ahead of it brings ROWS back all the same. */
     private static void undone() {
         PeriodTables x = new PeriodTables();
+        Due.is("adds(0, 0, ..)", 1, x.years(0, 1));
+        Due.is("nothing can be undone", 0, x.count(7));
+        Due.is("undo() behind years()", -1, x.undo());
+        Due.is("ROWS are as they were", 1, x.count(0) + x.count(1));
+
+        x = new PeriodTables();
         x.adds(0, 3, 50, 10, 30);
+        x.adds(0, 3, 50, 80, 100);
         x.years(27, 1);
-        Due.is("undo()", 1, x.undo());
+        Due.is("sets(0, 3, 48, 16, 26)", 4, x.count(0));
+        Due.is("what can be undone", 2, x.count(7));
+        Due.is("undo() of adds()", 1, x.undo());
         Due.table(x, "behind undo()", 0, 3, 50, 10, 30, 10);
         x.years(1, 40);
-        Due.is("what can be undone", 10, x.count(7));
+        Due.is("what can be undone", 1, x.count(7));
+        Due.is("undo() of adds()", 0, x.undo());
+        Due.is("both are empty", 0, x.count(0) + x.count(1));
+        Due.is("undo()", -1, x.undo());
+    }
+
+    /** A call behind years() is undone to what years() left. */
+    private static void undoneToYears() {
+        PeriodTables x = new PeriodTables();
+        PeriodTables y = new PeriodTables();
+        x.years(4711, 30);
+        y.years(4711, 30);
+        x.joins(0);
+        x.way(2);
+        Due.is("undo() of way()", 1, x.undo());
+        Due.is("undo() of joins()", 0, x.undo());
+        same(x, y);
+        Due.is("undo()", -1, x.undo());
+        same(x, y);
     }
 }
