@@ -310,25 +310,21 @@ public final class ActsTest {
 
     private static void wrongArguments() {
         PeriodTables x = full();
-        int[] tables = {-1, 2, Integer.MIN_VALUE, Integer.MAX_VALUE};
-        for (int bad : tables) {
+        for (int bad : Wrong.TABLES) {
             Due.is("adds() TABLE", -1, x.adds(bad, 0, 0, 50, 60));
             Due.is("sets() TABLE", -1, x.sets(bad, 0, 0, 50, 60));
             Due.is("cuts() TABLE", -1, x.cuts(bad, 0, 50, 60));
             Due.is("shifts() TABLE", -1, x.shifts(bad, 0, 1));
             Due.is("joins() TABLE", -1, x.joins(bad));
         }
-        int[] keys = {-1, 10, Integer.MIN_VALUE, Integer.MAX_VALUE};
-        for (int bad : keys) {
+        for (int bad : Wrong.KEYS) {
             Due.is("adds() KEY", -1, x.adds(0, bad, 0, 50, 60));
             Due.is("sets() KEY", -1, x.sets(0, bad, 0, 50, 60));
             Due.is("refers() KEY", -1, x.refers(bad, 0, 50, 60));
             Due.is("cuts() KEY", -1, x.cuts(0, bad, 50, 60));
             Due.is("shifts() KEY", -1, x.shifts(0, bad, 1));
         }
-        int[][] periods = {{0, 0}, {5, 4}, {-1, 5}, {99, 101}, {100, 101}, {100, 100}, {0, Integer.MAX_VALUE},
-            {Integer.MIN_VALUE, 1}, {Integer.MAX_VALUE, Integer.MIN_VALUE}};
-        for (int[] bad : periods) {
+        for (int[] bad : Wrong.PERIODS) {
             Due.is("adds() PERIOD", -1, x.adds(0, 0, 0, bad[0], bad[1]));
             Due.is("sets() PERIOD", -1, x.sets(0, 0, 0, bad[0], bad[1]));
             Due.is("refers() PERIOD", -1, x.refers(0, 0, bad[0], bad[1]));

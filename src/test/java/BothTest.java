@@ -1,10 +1,5 @@
 /** Promises 24 to 32: meets, lacks, either, sums, mean, fullest, spans, users, drags. */
 public final class BothTest {
-    private static final int[] BAD_TABLES = {-1, 2, Integer.MIN_VALUE, Integer.MAX_VALUE};
-    private static final int[] BAD_KEYS = {-1, 10, Integer.MIN_VALUE, Integer.MAX_VALUE};
-    private static final int[][] BAD_PERIODS = {{0, 0}, {5, 4}, {-1, 5}, {99, 101}, {100, 101}, {100, 100},
-        {0, Integer.MAX_VALUE}, {Integer.MIN_VALUE, 1}, {Integer.MAX_VALUE, Integer.MIN_VALUE}};
-
     public static void main(String[] args) {
         meets();
         meetsAlike();
@@ -249,19 +244,19 @@ public final class BothTest {
     private static void wrong() {
         PeriodTables x = some();
         x.longest(1);
-        for (int bad : BAD_TABLES) {
+        for (int bad : Wrong.TABLES) {
             Due.is("lacks() TABLE", -1, x.lacks(bad));
             Due.is("sums() TABLE", -1, x.sums(bad, 0, 1));
             Due.is("mean() TABLE", -1, x.mean(bad, 0));
             Due.is("fullest() TABLE", -1, x.fullest(bad));
             Due.is("spans() TABLE", -1, x.spans(bad, 0, 1));
         }
-        for (int bad : BAD_KEYS) {
+        for (int bad : Wrong.KEYS) {
             Due.is("mean() KEY", -1, x.mean(0, bad));
             Due.is("users() KEY", -1, x.users(bad));
             Due.is("drags() KEY", -1, x.drags(bad, 0, 1));
         }
-        for (int[] bad : BAD_PERIODS) {
+        for (int[] bad : Wrong.PERIODS) {
             Due.is("meets() PERIOD", -1, x.meets(bad[0], bad[1]));
             Due.is("sums() PERIOD", -1, x.sums(0, bad[0], bad[1]));
             Due.is("spans() PERIOD", -1, x.spans(0, bad[0], bad[1]));

@@ -1,11 +1,5 @@
 /** Promises 15 to 23: at, slice, gaps, covers, lies, changes, rows, longest, free. */
 public final class DaysTest {
-    private static final int[] BAD_TABLES = {-1, 2, Integer.MIN_VALUE, Integer.MAX_VALUE};
-    private static final int[] BAD_KEYS = {-1, 10, Integer.MIN_VALUE, Integer.MAX_VALUE};
-    private static final int[] BAD_DAYS = {-1, 100, Integer.MIN_VALUE, Integer.MAX_VALUE};
-    private static final int[][] BAD_PERIODS = {{0, 0}, {5, 4}, {-1, 5}, {99, 101}, {100, 101}, {100, 100},
-        {0, Integer.MAX_VALUE}, {Integer.MIN_VALUE, 1}, {Integer.MAX_VALUE, Integer.MIN_VALUE}};
-
     public static void main(String[] args) {
         at();
         slice();
@@ -140,7 +134,7 @@ public final class DaysTest {
         Due.is("no ROW", -1, x.lies(0, 0, 0, -1));
         Due.is("no ROW", -1, x.lies(0, 0, 1, 2));
         Due.row(x, "lies() of none", 10);
-        for (int bad : BAD_TABLES) {
+        for (int bad : Wrong.TABLES) {
             Due.is("no TABLE", -1, x.lies(bad, 0, 0, 0));
             Due.is("no TABLE", -1, x.lies(0, 0, bad, 0));
             Due.is("no ROW", -1, x.lies(0, bad == 2 ? 9 : bad, 0, 0));
@@ -155,7 +149,7 @@ public final class DaysTest {
         Due.row(x, "changes()", 40);
         Due.is("none", 0, x.changes(0, 9));
         Due.row(x, "changes()");
-        x.refers(3, 6, 25, 30);
+        x.refers(3, 10, 25, 30);
         x.sets(0, 3, 32, 12, 15);
         Due.is("REF is no VALUE", 3, x.changes(0, 3));
         Due.row(x, "changes()", 12, 15, 20);
@@ -228,7 +222,7 @@ public final class DaysTest {
     private static void wrong() {
         PeriodTables x = some();
         x.longest(1);
-        for (int bad : BAD_TABLES) {
+        for (int bad : Wrong.TABLES) {
             Due.is("at() TABLE", -1, x.at(bad, 0, 0));
             Due.is("slice() TABLE", -1, x.slice(bad, 0));
             Due.is("gaps() TABLE", -1, x.gaps(bad, 0, 0, 1));
@@ -237,19 +231,19 @@ public final class DaysTest {
             Due.is("longest() TABLE", -1, x.longest(bad));
             Due.is("free() TABLE", -1, x.free(bad, 0, 0, 1));
         }
-        for (int bad : BAD_KEYS) {
+        for (int bad : Wrong.KEYS) {
             Due.is("at() KEY", -1, x.at(0, bad, 0));
             Due.is("gaps() KEY", -1, x.gaps(0, bad, 0, 1));
             Due.is("covers() KEY", -1, x.covers(bad, 0, 1));
             Due.is("changes() KEY", -1, x.changes(0, bad));
             Due.is("free() KEY", -1, x.free(0, bad, 0, 1));
         }
-        for (int bad : BAD_DAYS) {
+        for (int bad : Wrong.DAYS) {
             Due.is("at() DAY", -1, x.at(0, 0, bad));
             Due.is("slice() DAY", -1, x.slice(0, bad));
             Due.is("free() DAY", -1, x.free(0, 0, bad, 1));
         }
-        for (int[] bad : BAD_PERIODS) {
+        for (int[] bad : Wrong.PERIODS) {
             Due.is("gaps() PERIOD", -1, x.gaps(0, 0, bad[0], bad[1]));
             Due.is("covers() PERIOD", -1, x.covers(0, bad[0], bad[1]));
         }
