@@ -2,33 +2,47 @@
 public final class EdgesActsTest {
     public static void main(String[] args) {
         addsNotOnce();
+        addsRefused();
+        addsTooMany();
         addsOrder();
         setsEachPlace();
         setsLeftAsItIs();
         setsNoneHad();
+        setsRefused();
+        setsTooMany();
         setsOrder();
-        setsToTwenty();
         refersEdges();
+        refersNoneHad();
         refersCoveredBySeveral();
         refersNotHeld();
+        refersRefused();
+        refersTooMany();
         refersOrder();
         cutsEachPlace();
+        cutsNoneHad();
         cutsBeneath();
+        cutsRefused();
+        cutsTooMany();
         cutsOrder();
-        cutsToTwenty();
         wayOneTakesOut();
         wayTwoLetsGo();
         wayToTwenty();
         shiftsEdges();
+        shiftsOfNone();
         shiftsDaysThatAreNone();
         shiftsNotHeld();
         shiftsByWay();
+        shiftsRefused();
+        shiftsTooMany();
         shiftsOrder();
         joinsAlike();
+        joinsNothing();
         joinsNotAlike();
         joinsAtTheEdges();
         joinsRefused();
-        wayEdges();
+        wayBecomes();
+        wayIsSo();
+        wayRefused();
         behindUndo();
         Due.finish("EdgesActsTest");
     }
@@ -60,6 +74,42 @@ public final class EdgesActsTest {
         }
         x.rows(0);
         return x;
+    }
+
+    /** "NONE: others, VALUE below 0 or above 99" */
+    private static void addsRefused() {
+        PeriodTables x = full();
+        x.cuts(0, 5, 0, 100);
+        x.cuts(1, 5, 0, 100);
+        for (int table = 0; table < 2; table++) {
+            int t = table;
+            for (int bad : Wrong.VALUES) {
+                Seen.refused(x, "no VALUE", -1, y -> y.adds(t, 5, bad, 0, 1));
+            }
+            for (int bad : Wrong.KEYS) {
+                Seen.refused(x, "no KEY", -1, y -> y.adds(t, bad, 5, 0, 1));
+            }
+            for (int[] bad : Wrong.PERIODS) {
+                Seen.refused(x, "no PERIOD", -1, y -> y.adds(t, 5, 5, bad[0], bad[1]));
+            }
+        }
+        for (int bad : Wrong.TABLES) {
+            Seen.refused(x, "no TABLE", -1, y -> y.adds(bad, 5, 5, 0, 1));
+        }
+        Due.is("none of these", 10, x.adds(0, 5, 0, 0, 1));
+        Due.is("none of these", 11, x.adds(0, 5, 99, 99, 100));
+    }
+
+    /** "-9": the 20th comes, the 21st does not. */
+    private static void addsTooMany() {
+        for (int table = 0; table < 2; table++) {
+            int t = table;
+            PeriodTables x = full();
+            Seen.refused(x, "the 21st", -9, y -> y.adds(t, 5, 1, 50, 60));
+            x.cuts(table, 9, 10, 12);
+            Due.is("the 20th", 12, x.adds(table, 5, 1, 50, 60));
+            Seen.refused(x, "the 21st", -9, y -> y.adds(t, 9, 1, 10, 12));
+        }
     }
 
     /** "NONE comes ahead of other answers below 0"; "-9: .. (asked behind all others)" */
@@ -134,7 +184,26 @@ public final class EdgesActsTest {
         Seen.refused(new PeriodTables(), "no ROWS", -2, y -> y.sets(0, 0, 0, 0, 100));
     }
 
-    /** "NONE: as adds(); -9" */
+    /** "NONE: as adds()" */
+    private static void setsRefused() {
+        PeriodTables x = oneRow();
+        for (int[] bad : Wrong.PERIODS) {
+            Seen.refused(x, "no PERIOD", -1, y -> y.sets(0, 3, 1, bad[0], bad[1]));
+        }
+        for (int bad : Wrong.TABLES) {
+            Seen.refused(x, "no TABLE", -1, y -> y.sets(bad, 3, 1, 10, 20));
+        }
+        for (int bad : Wrong.KEYS) {
+            Seen.refused(x, "no KEY", -1, y -> y.sets(0, bad, 1, 10, 20));
+        }
+        for (int bad : Wrong.VALUES) {
+            Seen.refused(x, "no VALUE", -1, y -> y.sets(0, 3, bad, 10, 20));
+        }
+        Due.is("none of these", 1, x.sets(0, 3, 0, 19, 100));
+        Due.is("none of these", 1, x.sets(0, 3, 99, 0, 11));
+    }
+
+    /** NONE ahead of -2 and -9, -2 ahead of -9. */
     private static void setsOrder() {
         PeriodTables x = full();
         Seen.refused(x, "no VALUE ahead of none had", -1, y -> y.sets(0, 0, 100, 50, 51));
@@ -142,22 +211,10 @@ public final class EdgesActsTest {
         Seen.refused(x, "none had, and no room", -2, y -> y.sets(0, 0, 1, 50, 51));
         Seen.refused(x, "one more", -9, y -> y.sets(0, 0, 1, 1, 2));
         Seen.refused(x, "one more, of TABLE 1", -9, y -> y.sets(1, 9, 1, 0, 1));
-        for (int[] bad : Wrong.PERIODS) {
-            Seen.refused(x, "no PERIOD", -1, y -> y.sets(0, 0, 1, bad[0], bad[1]));
-        }
-        for (int bad : Wrong.TABLES) {
-            Seen.refused(x, "no TABLE", -1, y -> y.sets(bad, 0, 1, 0, 1));
-        }
-        for (int bad : Wrong.KEYS) {
-            Seen.refused(x, "no KEY", -1, y -> y.sets(0, bad, 1, 0, 1));
-        }
-        for (int bad : Wrong.VALUES) {
-            Seen.refused(x, "no VALUE", -1, y -> y.sets(0, 0, bad, 0, 1));
-        }
     }
 
-    /** As many rows as may be, and one more. */
-    private static void setsToTwenty() {
+    /** "-9": as many rows as may be, and one more. */
+    private static void setsTooMany() {
         PeriodTables x = full();
         Due.is("none more", 2, x.sets(0, 0, 0, 0, 100));
         Due.row(x, "sets()", 20);
@@ -231,24 +288,51 @@ public final class EdgesActsTest {
         }
     }
 
-    /** "-2: none had; -3: ..; NONE: others; -9" */
+    /** "-2: none had" */
+    private static void refersNoneHad() {
+        PeriodTables x = oneRow();
+        Seen.refused(x, "up to its first day", -2, y -> y.refers(3, 10, 0, 10));
+        Seen.refused(x, "from behind its last day on", -2, y -> y.refers(3, 10, 20, 100));
+        Seen.refused(x, "another KEY", -2, y -> y.refers(5, 10, 0, 100));
+        Seen.refused(x, "a KEY of TABLE 1 alone", -2, y -> y.refers(7, 10, 0, 100));
+        Seen.refused(new PeriodTables(), "no ROWS", -2, y -> y.refers(0, 10, 0, 100));
+    }
+
+    /** "NONE: others" */
+    private static void refersRefused() {
+        PeriodTables x = oneRow();
+        for (int[] bad : Wrong.PERIODS) {
+            Seen.refused(x, "no PERIOD", -1, y -> y.refers(3, 10, bad[0], bad[1]));
+        }
+        for (int bad : Wrong.KEYS) {
+            Seen.refused(x, "no KEY", -1, y -> y.refers(bad, 10, 10, 20));
+        }
+        for (int bad : Wrong.REFS) {
+            Seen.refused(x, "no REF", -1, y -> y.refers(3, bad, 10, 20));
+        }
+    }
+
+    /** "-9": as many rows as may be, and one more. */
+    private static void refersTooMany() {
+        PeriodTables x = full();
+        Seen.refused(x, "to 21", -9, y -> y.refers(0, 5, 0, 1));
+        Due.is("none more", 2, x.refers(0, 6, 0, 100));
+        Due.row(x, "refers()", 20);
+        Seen.refused(x, "to none, to 22", -9, y -> y.refers(0, 10, 1, 11));
+        x.cuts(0, 9, 10, 12);
+        Due.is("to 20", 1, x.refers(0, 10, 1, 10));
+        Due.row(x, "refers()", 20);
+    }
+
+    /** NONE ahead of -2, -2 ahead of -3, -3 ahead of -9. */
     private static void refersOrder() {
         PeriodTables x = full();
         Seen.refused(x, "no REF ahead of none had", -1, y -> y.refers(0, 11, 50, 51));
+        Seen.refused(x, "no REF ahead of too many", -1, y -> y.refers(0, 11, 0, 1));
         Seen.refused(x, "none had ahead of not HELD", -2, y -> y.refers(0, 0, 2, 10));
-        Seen.refused(x, "it would be HELD, too many", -9, y -> y.refers(0, 5, 0, 1));
         x.cuts(1, 5, 0, 1);
         Seen.refused(x, "not HELD ahead of too many", -3, y -> y.refers(0, 5, 0, 1));
         Seen.refused(x, "it would be HELD, too many", -9, y -> y.refers(0, 5, 1, 2));
-        Due.is("none more", 2, x.refers(0, 6, 0, 100));
-        Due.row(x, "refers()", 20);
-        Seen.refused(x, "no REF more, too many", -9, y -> y.refers(0, 10, 1, 11));
-        for (int[] bad : Wrong.PERIODS) {
-            Seen.refused(x, "no PERIOD", -1, y -> y.refers(0, 5, bad[0], bad[1]));
-        }
-        for (int bad : Wrong.KEYS) {
-            Seen.refused(x, "no KEY", -1, y -> y.refers(bad, 5, 0, 1));
-        }
     }
 
     private static void cut(int from, int to, int days, int... want) {
@@ -280,9 +364,18 @@ public final class EdgesActsTest {
         Due.is("three rows", 3, x.cuts(0, 3, 9, 31));
         Due.row(x, "cuts()", 1 + 10 + 1, 0);
         Due.table(x, "behind cuts()", 0, 3, 1, 0, 9, 10, 3, 3, 31, 40, 10);
-        Seen.refused(x, "none had", -2, y -> y.cuts(0, 3, 9, 31));
-        Seen.refused(x, "another KEY", -2, y -> y.cuts(0, 4, 0, 100));
+    }
+
+    /** "-2: none had" */
+    private static void cutsNoneHad() {
+        PeriodTables x = oneRow();
+        Seen.refused(x, "up to its first day", -2, y -> y.cuts(0, 3, 0, 10));
+        Seen.refused(x, "from behind its last day on", -2, y -> y.cuts(0, 3, 20, 100));
+        Seen.refused(x, "another KEY", -2, y -> y.cuts(0, 5, 0, 100));
         Seen.refused(x, "the other TABLE", -2, y -> y.cuts(1, 3, 0, 100));
+        Seen.refused(new PeriodTables(), "no ROWS", -2, y -> y.cuts(1, 0, 0, 100));
+        x.cuts(0, 3, 12, 18);
+        Seen.refused(x, "it was cut", -2, y -> y.cuts(0, 3, 12, 18));
     }
 
     /** KEY 7 of TABLE 1 at 0 .. 49, and KEY 2 of TABLE 0 that refers to it at 10 .. 39. */
@@ -312,29 +405,39 @@ public final class EdgesActsTest {
         Due.is("another KEY", 1, x.cuts(1, 6, 20, 40));
     }
 
-    /** "-2: none had; -3: ..; NONE: others; -9" */
-    private static void cutsOrder() {
+    /** "NONE: others" */
+    private static void cutsRefused() {
         PeriodTables x = referring();
         for (int[] bad : Wrong.PERIODS) {
+            Seen.refused(x, "no PERIOD", -1, y -> y.cuts(0, 2, bad[0], bad[1]));
             Seen.refused(x, "no PERIOD", -1, y -> y.cuts(1, 7, bad[0], bad[1]));
         }
         for (int bad : Wrong.TABLES) {
             Seen.refused(x, "no TABLE", -1, y -> y.cuts(bad, 7, 0, 100));
         }
         for (int bad : Wrong.KEYS) {
+            Seen.refused(x, "no KEY", -1, y -> y.cuts(0, bad, 0, 100));
             Seen.refused(x, "no KEY", -1, y -> y.cuts(1, bad, 0, 100));
         }
-        Seen.refused(x, "none had", -2, y -> y.cuts(1, 7, 50, 100));
+    }
+
+    /** NONE ahead of -3, -2 ahead of -9, -3 ahead of -9. */
+    private static void cutsOrder() {
+        PeriodTables x = referring();
+        Seen.refused(x, "no PERIOD ahead of not HELD", -1, y -> y.cuts(1, 7, 0, 101));
+        Seen.refused(x, "no PERIOD ahead of none had", -1, y -> y.cuts(1, 7, 50, 101));
         for (int i = 0; i < 19; i++) {
             x.adds(1, 8, i, 2 * i, 2 * i + 1);
         }
+        Seen.refused(x, "none had, and no room", -2, y -> y.cuts(1, 7, 50, 100));
         Seen.refused(x, "not HELD ahead of too many", -3, y -> y.cuts(1, 7, 20, 21));
         Seen.refused(x, "HELD, too many", -9, y -> y.cuts(1, 7, 5, 6));
         x.way(1);
         Seen.refused(x, "by WAY 1, too many of TABLE 1", -9, y -> y.cuts(1, 7, 20, 21));
     }
 
-    private static void cutsToTwenty() {
+    /** "-9": as many rows as may be, and one more. */
+    private static void cutsTooMany() {
         PeriodTables x = full();
         x.cuts(0, 9, 0, 100);
         x.adds(0, 9, 1, 0, 3);
@@ -440,8 +543,15 @@ public final class EdgesActsTest {
         Due.is("to day 0", 2, x.shifts(0, 4, -10));
         Due.is("to day 99", 2, x.shifts(0, 4, 20));
         Due.table(x, "to day 99", 0, 4, 1, 20, 30, 10, 4, 2, 90, 100, 10, 5, 3, 0, 100, 10);
-        Seen.refused(x, "there is none", -2, y -> y.shifts(0, 3, 1));
-        Seen.refused(x, "there is none", -2, y -> y.shifts(1, 4, 1));
+    }
+
+    /** "-2: there is none" */
+    private static void shiftsOfNone() {
+        PeriodTables x = oneRow();
+        Seen.refused(x, "another KEY", -2, y -> y.shifts(0, 5, 1));
+        Seen.refused(x, "the other TABLE", -2, y -> y.shifts(1, 3, -1));
+        Seen.refused(x, "a KEY of TABLE 1 alone", -2, y -> y.shifts(0, 7, 99));
+        Seen.refused(new PeriodTables(), "no ROWS", -2, y -> y.shifts(1, 0, 1));
     }
 
     /** "-4: not HELD then, as all ROWS are then (in TABLE 0; in TABLE 1, if WAY is 0)" */
@@ -489,28 +599,53 @@ public final class EdgesActsTest {
         Due.table(x, "by WAY 1", 0, 2, 9, 20, 25, 7, 2, 9, 35, 40, 7, 2, 8, 60, 85, 7);
     }
 
-    /** "-2: ..; -3: ..; -4: ..; NONE: others; -9" */
+    /** "NONE: others" */
+    private static void shiftsRefused() {
+        PeriodTables x = referring();
+        for (int bad : Wrong.TABLES) {
+            Seen.refused(x, "no TABLE", -1, y -> y.shifts(bad, 2, 1));
+        }
+        for (int bad : Wrong.KEYS) {
+            Seen.refused(x, "no KEY", -1, y -> y.shifts(0, bad, 1));
+            Seen.refused(x, "no KEY", -1, y -> y.shifts(1, bad, -1));
+        }
+        for (int bad : Wrong.STEPS) {
+            Seen.refused(x, "no step", -1, y -> y.shifts(0, 2, bad));
+            Seen.refused(x, "no step", -1, y -> y.shifts(1, 7, bad));
+        }
+    }
+
+    /** "-9": TABLE 0 to 20 rows by WAY, and to 21. */
+    private static void shiftsTooMany() {
+        PeriodTables x = referring();
+        for (int i = 0; i < 19; i++) {
+            x.adds(0, 3, i, 2 * i, 2 * i + 1);
+        }
+        x.way(2);
+        Seen.refused(x, "to 21", -9, y -> y.shifts(1, 7, 11));
+        x.way(1);
+        Due.is("by WAY 1 none more", 1, x.shifts(1, 7, 11));
+        Due.is("20", 20, x.count(0));
+        x.undo();
+        x.way(2);
+        x.cuts(0, 3, 0, 1);
+        Due.is("to 20", 1, x.shifts(1, 7, 11));
+        Due.is("20", 20, x.count(0));
+    }
+
+    /** NONE ahead of -2, -3; -3 ahead of -4 and -9. */
     private static void shiftsOrder() {
         PeriodTables x = referring();
         Seen.refused(x, "by 0 ahead of none", -1, y -> y.shifts(0, 3, 0));
         Seen.refused(x, "by 100 ahead of no days", -1, y -> y.shifts(0, 2, 100));
         Seen.refused(x, "no days ahead of not HELD", -3, y -> y.shifts(0, 2, 61));
         Seen.refused(x, "no days ahead of not HELD", -3, y -> y.shifts(1, 7, 51));
-        for (int bad : Wrong.TABLES) {
-            Seen.refused(x, "no TABLE", -1, y -> y.shifts(bad, 2, 1));
-        }
-        for (int bad : Wrong.KEYS) {
-            Seen.refused(x, "no KEY", -1, y -> y.shifts(0, bad, 1));
-        }
         for (int i = 0; i < 19; i++) {
             x.adds(0, 3, i, 2 * i, 2 * i + 1);
         }
         Seen.refused(x, "not HELD", -4, y -> y.shifts(1, 7, 11));
         x.way(2);
         Seen.refused(x, "no days ahead of too many", -3, y -> y.shifts(1, 7, 51));
-        Seen.refused(x, "too many", -9, y -> y.shifts(1, 7, 11));
-        x.way(1);
-        Due.is("by WAY 1 not", 1, x.shifts(1, 7, 11));
     }
 
     /** "ALIKE NEIGHBOURS of a TABLE are joined to one ROW, as long as there are some" */
@@ -522,17 +657,22 @@ public final class EdgesActsTest {
             }
             Due.is("20 to one", 19, x.joins(table));
             Due.table(x, "20 to one", table, 6, 66, 0, 100, 10);
-            Due.is("none more", 0, x.joins(table));
-            Due.is("none more, of none", 0, x.joins(1 - table));
-            Due.is("undo() of these", 8, undoTwice(x));
-            Due.is("undo()", 7, x.undo());
+            Due.is("undo()", 9, x.undo());
             Due.is("20 again", 20, x.count(table));
         }
     }
 
-    private static int undoTwice(PeriodTables x) {
-        x.undo();
-        return x.undo();
+    /** "how many ROWS fewer": none, and it is done all the same. */
+    private static void joinsNothing() {
+        for (int table = 0; table < 2; table++) {
+            PeriodTables x = new PeriodTables();
+            Due.is("no ROWS", 0, x.joins(table));
+            x.adds(table, 6, 66, 0, 100);
+            Due.is("one ROW", 0, x.joins(table));
+            Due.table(x, "one ROW", table, 6, 66, 0, 100, 10);
+            Due.is("the other TABLE", 0, x.joins(1 - table));
+            Due.is("each can be undone", 4, x.count(7));
+        }
     }
 
     /** "two ROWS of a TABLE of one KEY, VALUE and REF, TO of one being FROM of the other" */
@@ -584,21 +724,32 @@ public final class EdgesActsTest {
         }
     }
 
-    /** "10 and what it was. -2: it is so; NONE: another v." */
-    private static void wayEdges() {
+    /** "WAY becomes v (0 .. 2): 10 and what it was." */
+    private static void wayBecomes() {
         for (int was = 0; was < 3; was++) {
             for (int v = 0; v < 3; v++) {
-                PeriodTables x = new PeriodTables();
-                x.way(was);
-                int to = v;
-                if (v == was) {
-                    Seen.refused(x, "it is so", -2, y -> y.way(to));
-                } else {
+                if (v != was) {
+                    PeriodTables x = new PeriodTables();
+                    x.way(was);
                     Due.is("way() from " + was, 10 + was, x.way(v));
                     Due.is("WAY", v, x.count(2));
                 }
             }
         }
+    }
+
+    /** "-2: it is so" */
+    private static void wayIsSo() {
+        for (int was = 0; was < 3; was++) {
+            PeriodTables x = new PeriodTables();
+            x.way(was);
+            int v = was;
+            Seen.refused(x, "it is so", -2, y -> y.way(v));
+        }
+    }
+
+    /** "NONE: another v." */
+    private static void wayRefused() {
         int[] others = {-1, 3, Integer.MIN_VALUE, Integer.MAX_VALUE};
         for (int bad : others) {
             Seen.refused(new PeriodTables(), "way(" + bad + ")", -1, y -> y.way(bad));

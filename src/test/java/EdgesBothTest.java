@@ -5,21 +5,28 @@ public final class EdgesBothTest {
         meetsTellsEachApart();
         meetsAtTheEdges();
         meetsWithout();
+        meetsRefused();
         lacksEdges();
+        lacksRefused();
         eitherEdges();
         sumsEdges();
+        sumsRefused();
         meanEdges();
+        meanNeverThere();
+        meanRefused();
         fullestEdges();
+        fullestRefused();
         spansFewest();
         spansLeastRow();
         spansTwelveAlone();
         spansAllHaveNot();
+        spansRefused();
         usersEdges();
+        usersRefused();
         dragsEdges();
+        dragsOfNone();
         dragsAsCutsWould();
-        wrongTables();
-        wrongKeys();
-        wrongPeriods();
+        dragsRefused();
         Due.finish("EdgesBothTest");
     }
 
@@ -84,6 +91,7 @@ public final class EdgesBothTest {
         }
     }
 
+    /** The first day, the last day; "of the first one (by KEY, FROM ..)" */
     private static void meetsAtTheEdges() {
         PeriodTables x = new PeriodTables();
         x.adds(1, 0, 0, 0, 100);
@@ -112,7 +120,7 @@ public final class EdgesBothTest {
         return x;
     }
 
-    /** "(by KEY, FROM; nothing without)" */
+    /** "nothing without" */
     private static void meetsWithout() {
         PeriodTables x = new PeriodTables();
         Due.is("no ROWS", 0, x.meets(0, 100));
@@ -214,14 +222,23 @@ public final class EdgesBothTest {
         return x;
     }
 
-    /** "Fractions are told in lowest terms .. (0 by 1)"; "-2: it is never there" */
+    /** "-2: it is never there" */
+    private static void meanNeverThere() {
+        PeriodTables x = new PeriodTables();
+        Seen.refused(x, "no ROWS", -2, y -> y.mean(0, 0));
+        x.adds(1, 0, 0, 0, 100);
+        Seen.refused(x, "never there in TABLE 0", -2, y -> y.mean(0, 0));
+        Seen.refused(x, "another KEY", -2, y -> y.mean(1, 1));
+        x.cuts(1, 0, 0, 100);
+        Seen.refused(x, "no more there", -2, y -> y.mean(1, 0));
+    }
+
+    /** "Fractions are told in lowest terms, upper and lower number (0 by 1)." */
     private static void meanEdges() {
         PeriodTables x = new PeriodTables();
-        Seen.refused(x, "never there", -2, y -> y.mean(0, 0));
         x.adds(1, 0, 0, 0, 100);
         Due.is("of 0", 0, x.mean(1, 0));
         Due.row(x, "mean()", 0, 1, 100);
-        Seen.refused(x, "never there in TABLE 0", -2, y -> y.mean(0, 0));
         x.sets(1, 0, 99, 0, 100);
         Due.is("of 99", 0, x.mean(1, 0));
         Due.row(x, "mean()", 99, 1, 100);
@@ -235,8 +252,6 @@ public final class EdgesBothTest {
         x.cuts(1, 0, 0, 99);
         Due.is("of one day", 0, x.mean(1, 0));
         Due.row(x, "mean()", 1, 1, 1);
-        x.cuts(1, 0, 0, 100);
-        Seen.refused(x, "no more there", -2, y -> y.mean(1, 0));
         x.adds(0, 5, 30, 0, 6);
         x.adds(0, 5, 10, 50, 54);
         Due.is("over a gap", 0, x.mean(0, 5));
@@ -402,7 +417,7 @@ public final class EdgesBothTest {
         return x;
     }
 
-    /** "-2: no ROW of the KEY has DAYS in the PERIOD" */
+    /** "how many DAYS of ROWS of TABLE 0 would be taken out; the ROW: of how many ROWS" */
     private static void dragsEdges() {
         PeriodTables x = dragging();
         Due.is("up to the first day", 0, x.drags(7, 0, 10));
@@ -415,6 +430,11 @@ public final class EdgesBothTest {
         Due.row(x, "drags()", 1);
         Due.is("all days", 60, x.drags(7, 0, 100));
         Due.row(x, "drags()", 2);
+    }
+
+    /** "-2: no ROW of the KEY has DAYS in the PERIOD" */
+    private static void dragsOfNone() {
+        PeriodTables x = dragging();
         Seen.refused(x, "behind the last day", -2, y -> y.drags(7, 50, 100));
         Seen.refused(x, "another KEY", -2, y -> y.drags(6, 0, 100));
         Seen.refused(x, "a KEY of TABLE 0 alone", -2, y -> y.drags(4, 0, 100));
@@ -439,34 +459,83 @@ public final class EdgesBothTest {
         }
     }
 
-    private static void wrongTables() {
-        PeriodTables x = dragging();
-        for (int bad : Wrong.TABLES) {
-            Seen.refused(x, "lacks() TABLE", -1, y -> y.lacks(bad));
-            Seen.refused(x, "sums() TABLE", -1, y -> y.sums(bad, 0, 1));
-            Seen.refused(x, "mean() TABLE", -1, y -> y.mean(bad, 0));
-            Seen.refused(x, "fullest() TABLE", -1, y -> y.fullest(bad));
-            Seen.refused(x, "spans() TABLE", -1, y -> y.spans(bad, 0, 1));
-        }
-    }
-
-    private static void wrongKeys() {
-        PeriodTables x = dragging();
-        for (int bad : Wrong.KEYS) {
-            Seen.refused(x, "mean() KEY", -1, y -> y.mean(0, bad));
-            Seen.refused(x, "users() KEY", -1, y -> y.users(bad));
-            Seen.refused(x, "drags() KEY", -1, y -> y.drags(bad, 0, 100));
-        }
-    }
-
-    private static void wrongPeriods() {
+    /** "NONE: no PERIOD." */
+    private static void meetsRefused() {
         PeriodTables x = dragging();
         for (int[] bad : Wrong.PERIODS) {
             Seen.refused(x, "meets() PERIOD", -1, y -> y.meets(bad[0], bad[1]));
+        }
+    }
+
+    /** "NONE: none such." */
+    private static void lacksRefused() {
+        PeriodTables x = dragging();
+        for (int bad : Wrong.TABLES) {
+            Seen.refused(x, "lacks() TABLE", -1, y -> y.lacks(bad));
+        }
+    }
+
+    /** "NONE: others." */
+    private static void sumsRefused() {
+        PeriodTables x = dragging();
+        for (int bad : Wrong.TABLES) {
+            Seen.refused(x, "sums() TABLE", -1, y -> y.sums(bad, 0, 1));
+        }
+        for (int[] bad : Wrong.PERIODS) {
+            Seen.refused(x, "sums() PERIOD", -1, y -> y.sums(0, bad[0], bad[1]));
             Seen.refused(x, "sums() PERIOD", -1, y -> y.sums(1, bad[0], bad[1]));
+        }
+    }
+
+    /** "NONE: others." */
+    private static void meanRefused() {
+        PeriodTables x = dragging();
+        for (int bad : Wrong.TABLES) {
+            Seen.refused(x, "mean() TABLE", -1, y -> y.mean(bad, 7));
+        }
+        for (int bad : Wrong.KEYS) {
+            Seen.refused(x, "mean() KEY", -1, y -> y.mean(0, bad));
+            Seen.refused(new PeriodTables(), "mean() KEY ahead of never there", -1, y -> y.mean(1, bad));
+        }
+    }
+
+    /** "NONE: none such." */
+    private static void fullestRefused() {
+        PeriodTables x = dragging();
+        for (int bad : Wrong.TABLES) {
+            Seen.refused(x, "fullest() TABLE", -1, y -> y.fullest(bad));
+        }
+    }
+
+    /** "NONE: others." */
+    private static void spansRefused() {
+        PeriodTables x = dragging();
+        for (int bad : Wrong.TABLES) {
+            Seen.refused(x, "spans() TABLE", -1, y -> y.spans(bad, 0, 1));
+        }
+        for (int[] bad : Wrong.PERIODS) {
             Seen.refused(x, "spans() PERIOD", -1, y -> y.spans(1, bad[0], bad[1]));
+            Seen.refused(new PeriodTables(), "spans() PERIOD ahead of -2", -1, y -> y.spans(0, bad[0], bad[1]));
+        }
+    }
+
+    /** "NONE: none such." */
+    private static void usersRefused() {
+        PeriodTables x = dragging();
+        for (int bad : Wrong.KEYS) {
+            Seen.refused(x, "users() KEY", -1, y -> y.users(bad));
+        }
+    }
+
+    /** "NONE: others." */
+    private static void dragsRefused() {
+        PeriodTables x = dragging();
+        for (int bad : Wrong.KEYS) {
+            Seen.refused(x, "drags() KEY", -1, y -> y.drags(bad, 0, 100));
+        }
+        for (int[] bad : Wrong.PERIODS) {
             Seen.refused(x, "drags() PERIOD", -1, y -> y.drags(7, bad[0], bad[1]));
-            Seen.refused(x, "drags() PERIOD, ahead of none there", -1, y -> y.drags(6, bad[0], bad[1]));
+            Seen.refused(x, "drags() PERIOD ahead of none there", -1, y -> y.drags(6, bad[0], bad[1]));
         }
     }
 }

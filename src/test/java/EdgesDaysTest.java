@@ -2,8 +2,10 @@
 public final class EdgesDaysTest {
     public static void main(String[] args) {
         atFirstAndLastDays();
+        atNotThere();
         atRefused();
         sliceOfAllAndNone();
+        sliceRefused();
         gapsWithinThePeriod();
         gapsWithout();
         gapsRefused();
@@ -11,12 +13,17 @@ public final class EdgesDaysTest {
         coversRefused();
         liesEachWay();
         liesOfNone();
-        changesOfVALUEAlone();
+        changesOfValueAlone();
         changesAtTheEdges();
         changesTwelveAtMost();
+        changesRefused();
         rowsEdges();
+        rowsRefused();
         longestOfAsMany();
+        longestOfNone();
+        longestRefused();
         freeEdges();
+        freeIsNone();
         freeRefused();
         Due.finish("EdgesDaysTest");
     }
@@ -34,7 +41,7 @@ public final class EdgesDaysTest {
         return x;
     }
 
-    /** "VALUE of a KEY at a DAY: it; .. -2: it is not there" */
+    /** "VALUE of a KEY at a DAY: it; the ROW: REF, FROM, TO of its ROW" */
     private static void atFirstAndLastDays() {
         PeriodTables x = edges();
         Due.is("day 0", 0, x.at(0, 0, 0));
@@ -49,11 +56,17 @@ public final class EdgesDaysTest {
         Due.row(x, "at()", 10, 50, 60);
         Due.is("of TABLE 1", 50, x.at(1, 9, 59));
         Due.row(x, "at()", 10, 40, 60);
+    }
+
+    /** "-2: it is not there" */
+    private static void atNotThere() {
+        PeriodTables x = edges();
         Seen.refused(x, "behind its last day", -2, y -> y.at(0, 9, 60));
         Seen.refused(x, "ahead of its first day", -2, y -> y.at(0, 9, 39));
         Seen.refused(x, "behind day 0", -2, y -> y.at(0, 0, 1));
         Seen.refused(x, "ahead of day 99", -2, y -> y.at(1, 0, 98));
         Seen.refused(x, "never there", -2, y -> y.at(0, 5, 50));
+        Seen.refused(new PeriodTables(), "no ROWS", -2, y -> y.at(0, 0, 0));
     }
 
     /** "NONE: others, no DAY." */
@@ -61,7 +74,6 @@ public final class EdgesDaysTest {
         PeriodTables x = edges();
         for (int bad : Wrong.TABLES) {
             Seen.refused(x, "at() TABLE", -1, y -> y.at(bad, 0, 0));
-            Seen.refused(x, "slice() TABLE", -1, y -> y.slice(bad, 0));
         }
         for (int bad : Wrong.KEYS) {
             Seen.refused(x, "at() KEY", -1, y -> y.at(0, bad, 0));
@@ -69,6 +81,17 @@ public final class EdgesDaysTest {
         for (int bad : Wrong.DAYS) {
             Seen.refused(x, "at() DAY", -1, y -> y.at(0, 0, bad));
             Seen.refused(x, "at() DAY ahead of not there", -1, y -> y.at(0, 5, bad));
+        }
+    }
+
+    /** "NONE: none such, no DAY." */
+    private static void sliceRefused() {
+        PeriodTables x = edges();
+        for (int bad : Wrong.TABLES) {
+            Seen.refused(x, "slice() TABLE", -1, y -> y.slice(bad, 0));
+        }
+        for (int bad : Wrong.DAYS) {
+            Seen.refused(x, "slice() DAY", -1, y -> y.slice(0, bad));
             Seen.refused(x, "slice() DAY", -1, y -> y.slice(1, bad));
         }
     }
@@ -122,6 +145,7 @@ public final class EdgesDaysTest {
         Due.row(x, "gaps()");
     }
 
+    /** "NONE: others." */
     private static void gapsRefused() {
         PeriodTables x = edges();
         for (int[] bad : Wrong.PERIODS) {
@@ -162,6 +186,7 @@ public final class EdgesDaysTest {
         Due.row(x, "covers()", 0);
     }
 
+    /** "NONE: others." */
     private static void coversRefused() {
         PeriodTables x = edges();
         for (int[] bad : Wrong.PERIODS) {
@@ -237,7 +262,7 @@ public final class EdgesDaysTest {
     }
 
     /** "a KEY's VALUE is another one at a DAY than at the DAY ahead of it (it being there at both)" */
-    private static void changesOfVALUEAlone() {
+    private static void changesOfValueAlone() {
         PeriodTables x = new PeriodTables();
         x.adds(1, 7, 1, 0, 100);
         x.adds(0, 3, 30, 10, 20);
@@ -260,6 +285,7 @@ public final class EdgesDaysTest {
         Due.row(x, "changes() of none");
     }
 
+    /** The first DAY that has one ahead of it, and the last. */
     private static void changesAtTheEdges() {
         PeriodTables x = new PeriodTables();
         x.adds(0, 0, 5, 0, 1);
@@ -269,6 +295,11 @@ public final class EdgesDaysTest {
         Due.row(x, "changes()", 1, 99);
         Due.is("no ROWS", 0, x.changes(1, 0));
         Due.row(x, "changes() of none");
+    }
+
+    /** "NONE: none such." */
+    private static void changesRefused() {
+        PeriodTables x = edges();
         for (int bad : Wrong.TABLES) {
             Seen.refused(x, "changes() TABLE", -1, y -> y.changes(bad, 0));
         }
@@ -305,19 +336,40 @@ public final class EdgesDaysTest {
         Due.is("20 that stay 20", 20, x.rows(0));
         Due.row(x, "rows()", 20, 980);
         Due.is("nothing is joined", 20, x.count(1));
-        for (int bad : Wrong.TABLES) {
-            Seen.refused(x, "rows() TABLE", -1, y -> y.rows(bad));
-            Seen.refused(x, "longest() TABLE", -1, y -> y.longest(bad));
-        }
         x = new PeriodTables();
         Due.is("none", 0, x.rows(1));
         Due.row(x, "rows()", 0, 0);
     }
 
-    /** "(of as many the least number)"; "-2: there is none" */
-    private static void longestOfAsMany() {
+    /** "NONE: none such." */
+    private static void rowsRefused() {
+        PeriodTables x = edges();
+        for (int bad : Wrong.TABLES) {
+            Seen.refused(x, "rows() TABLE", -1, y -> y.rows(bad));
+        }
+    }
+
+    /** "-2: there is none" */
+    private static void longestOfNone() {
         PeriodTables x = new PeriodTables();
         Seen.refused(x, "there is none", -2, y -> y.longest(0));
+        x.adds(0, 0, 0, 0, 1);
+        x.rows(0);
+        Seen.refused(x, "there is none in TABLE 1", -2, y -> y.longest(1));
+    }
+
+    /** "NONE: none such." */
+    private static void longestRefused() {
+        PeriodTables x = edges();
+        for (int bad : Wrong.TABLES) {
+            Seen.refused(x, "longest() TABLE", -1, y -> y.longest(bad));
+            Seen.refused(new PeriodTables(), "longest() TABLE ahead of none", -1, y -> y.longest(bad));
+        }
+    }
+
+    /** "(of as many the least number)" */
+    private static void longestOfAsMany() {
+        PeriodTables x = new PeriodTables();
         x.adds(0, 3, 1, 0, 10);
         x.adds(0, 2, 1, 0, 9);
         x.adds(0, 4, 1, 90, 100);
@@ -335,28 +387,40 @@ public final class EdgesDaysTest {
         Due.row(x, "longest()", 1);
     }
 
-    /** "The first PERIOD of n DAYS (1 .. 100) from a DAY on or behind"; "-2: there is none" */
+    /** "The first PERIOD of n DAYS (1 .. 100) from a DAY on or behind at which a KEY is not there at all" */
     private static void freeEdges() {
         PeriodTables x = new PeriodTables();
         Due.is("all days", 0, x.free(0, 0, 0, 100));
         Due.is("the last day", 99, x.free(0, 0, 99, 1));
         Due.is("all from day 1 on", 1, x.free(0, 0, 1, 99));
-        Seen.refused(x, "one more", -2, y -> y.free(0, 0, 1, 100));
-        Seen.refused(x, "two from the last day on", -2, y -> y.free(0, 0, 99, 2));
-        x.adds(0, 0, 1, 0, 1);
-        x.adds(0, 0, 1, 10, 20);
-        x.adds(0, 0, 1, 30, 99);
+        x = islands();
         Due.is("behind the first", 1, x.free(0, 0, 0, 9));
         Due.is("ten of a later gap", 20, x.free(0, 0, 0, 10));
-        Seen.refused(x, "eleven nowhere", -2, y -> y.free(0, 0, 0, 11));
         Due.is("within a gap", 5, x.free(0, 0, 5, 5));
         Due.is("not within it", 20, x.free(0, 0, 5, 6));
         Due.is("at a gap's last day", 9, x.free(0, 0, 9, 1));
         Due.is("in a row", 20, x.free(0, 0, 10, 1));
         Due.is("the last day of all", 99, x.free(0, 0, 30, 1));
-        Seen.refused(x, "two nowhere", -2, y -> y.free(0, 0, 29, 2));
         Due.is("another KEY is free", 0, x.free(0, 1, 0, 100));
         Due.is("the other TABLE is free", 0, x.free(1, 0, 0, 100));
+    }
+
+    private static PeriodTables islands() {
+        PeriodTables x = new PeriodTables();
+        x.adds(0, 0, 1, 0, 1);
+        x.adds(0, 0, 1, 10, 20);
+        x.adds(0, 0, 1, 30, 99);
+        return x;
+    }
+
+    /** "-2: there is none" */
+    private static void freeIsNone() {
+        PeriodTables x = new PeriodTables();
+        Seen.refused(x, "100 from day 1 on", -2, y -> y.free(0, 0, 1, 100));
+        Seen.refused(x, "two from the last day on", -2, y -> y.free(0, 0, 99, 2));
+        x = islands();
+        Seen.refused(x, "eleven nowhere", -2, y -> y.free(0, 0, 0, 11));
+        Seen.refused(x, "two nowhere from 29 on", -2, y -> y.free(0, 0, 29, 2));
         x.adds(0, 0, 1, 99, 100);
         Seen.refused(x, "no day from there on", -2, y -> y.free(0, 0, 30, 1));
     }

@@ -1,5 +1,7 @@
 /** Promises 33 to 43: each sentence that names an edge, by itself. */
 public final class EdgesRestTest {
+    private static final int[] OTHER_NUMBERS = {-1, 2, Integer.MIN_VALUE, Integer.MAX_VALUE};
+
     public static void main(String[] args) {
         oneToFortySigns();
         moreThanFortySigns();
@@ -14,18 +16,23 @@ public final class EdgesRestTest {
         whereOfNoneAndAll();
         tableBehindTheText();
         differsEdges();
+        differsFromNothingKept();
         differsRefused();
         heardEdges();
         heardTwelve();
         deniesEdges();
         fitsEdges();
         asksEdges();
+        asksOfNone();
         asksLeastOfEqual();
         yearsRefused();
         yearsEdges();
         keepEdges();
+        keepRefused();
         againEdges();
+        againRefused();
         countEdges();
+        countOfAnotherWhat();
         rowEdges();
         Due.finish("EdgesRestTest");
     }
@@ -353,24 +360,29 @@ public final class EdgesRestTest {
         Due.row(x, "not there", 10);
     }
 
-    /** "-2: nothing is kept there; NONE: others" */
-    private static void differsRefused() {
+    /** "-2: nothing is kept there" */
+    private static void differsFromNothingKept() {
         PeriodTables x = some();
-        int[] numbers = {-1, 2, Integer.MIN_VALUE, Integer.MAX_VALUE};
         for (int i = 0; i < 2; i++) {
             int k = i;
             Seen.refused(x, "nothing is kept under " + i, -2, y -> y.differs(0, k));
-            for (int bad : Wrong.TABLES) {
-                Seen.refused(x, "no TABLE ahead of nothing kept", -1, y -> y.differs(bad, k));
-            }
+            Seen.refused(x, "nothing is kept under " + i, -2, y -> y.differs(1, k));
         }
         x.keep(0);
         Seen.refused(x, "nothing is kept under 1", -2, y -> y.differs(1, 1));
-        for (int bad : numbers) {
+        Due.is("it is under 0", 0, x.differs(1, 0));
+    }
+
+    /** "NONE: others" */
+    private static void differsRefused() {
+        PeriodTables x = some();
+        x.keep(0);
+        for (int bad : OTHER_NUMBERS) {
             Seen.refused(x, "differs() from " + bad, -1, y -> y.differs(0, bad));
         }
         for (int bad : Wrong.TABLES) {
             Seen.refused(x, "no TABLE", -1, y -> y.differs(bad, 0));
+            Seen.refused(x, "no TABLE ahead of nothing kept", -1, y -> y.differs(bad, 1));
         }
     }
 
@@ -468,16 +480,21 @@ public final class EdgesRestTest {
     }
 
     /** "-2: none fits" */
-    private static void asksEdges() {
+    private static void asksOfNone() {
         PeriodTables x = new PeriodTables();
         Seen.refused(x, "no ROWS", -2, y -> y.asks());
         x.adds(0, 5, 5, 0, 1);
+        x.heard(0, 6);
+        x.fits();
+        Seen.refused(x, "none fits", -2, y -> y.asks());
+    }
+
+    /** "so that, it is so or not, the fewest such ROWS are left at most": of one, of twenty, of what fits alone. */
+    private static void asksEdges() {
+        PeriodTables x = new PeriodTables();
+        x.adds(0, 5, 5, 1, 2);
         Due.is("one", 0, x.asks());
         Due.row(x, "one", 1);
-        x.heard(0, 6);
-        Seen.refused(x, "none fits", -2, y -> y.asks());
-        x.denies();
-        x.cuts(0, 5, 0, 1);
         for (int key = 0; key < 10; key++) {
             x.adds(0, key, 5, 1, 2);
             x.adds(0, key, 5, 2, 3);
@@ -563,24 +580,41 @@ public final class EdgesRestTest {
         Seen.same("the same seed", Seen.all(once), Seen.all(twice));
     }
 
-    /** "kept under a number 0 .. 1: true. Refused: others." */
+    /** "Refused: others." */
+    private static void keepRefused() {
+        PeriodTables x = some();
+        for (int bad : OTHER_NUMBERS) {
+            Seen.refused(x, "keep(" + bad + ")", 0, y -> y.keep(bad) ? 1 : 0);
+        }
+    }
+
+    /** "kept under a number 0 .. 1: true" */
     private static void keepEdges() {
         PeriodTables x = some();
-        int[] numbers = {-1, 2, Integer.MIN_VALUE, Integer.MAX_VALUE};
-        for (int bad : numbers) {
-            Seen.refused(x, "keep(" + bad + ")", 0, y -> y.keep(bad) ? 1 : 0);
-            Seen.refused(x, "again(" + bad + ")", 0, y -> y.again(bad) ? 1 : 0);
-        }
         for (int i = 0; i < 2; i++) {
             int k = i;
-            Seen.refused(x, "nothing is kept under " + i, 0, y -> y.again(k) ? 1 : 0);
-            Seen.refused(x, "keep(" + i + ") changes nothing", 1, y -> y.keep(k) ? 1 : 0);
+            Seen.refused(x, "keep(" + i + ") changes nothing else", 1, y -> y.keep(k) ? 1 : 0);
+            Seen.refused(x, "keep(" + i + ") again", 1, y -> y.keep(k) ? 1 : 0);
         }
         x = new PeriodTables();
         Due.is("an empty one", true, x.keep(0));
         x.adds(0, 0, 0, 0, 1);
         Due.is("again(0)", true, x.again(0));
         Due.is("empty again", 0, x.count(0));
+    }
+
+    /** "Refused: nothing kept." */
+    private static void againRefused() {
+        PeriodTables x = some();
+        for (int bad : OTHER_NUMBERS) {
+            Seen.refused(x, "again(" + bad + ")", 0, y -> y.again(bad) ? 1 : 0);
+        }
+        for (int i = 0; i < 2; i++) {
+            int k = i;
+            Seen.refused(x, "nothing is kept under " + i, 0, y -> y.again(k) ? 1 : 0);
+        }
+        x.keep(1);
+        Seen.refused(x, "nothing is kept under 0", 0, y -> y.again(0) ? 1 : 0);
     }
 
     /** "It is as it was kept under a number." */
@@ -609,14 +643,19 @@ public final class EdgesRestTest {
     }
 
     /** "-100 for another what" */
+    private static void countOfAnotherWhat() {
+        PeriodTables x = some();
+        int[] others = {-1, 10, -100, Integer.MIN_VALUE, Integer.MAX_VALUE};
+        for (int bad : others) {
+            Seen.refused(x, "count(" + bad + ")", -100, y -> y.count(bad));
+        }
+    }
+
+    /** Of nothing, and of as much as can be. */
     private static void countEdges() {
         PeriodTables x = new PeriodTables();
         for (int what = 0; what < 10; what++) {
             Due.is("count(" + what + ") of a new object", 0, x.count(what));
-        }
-        int[] others = {-1, 10, -100, Integer.MIN_VALUE, Integer.MAX_VALUE};
-        for (int bad : others) {
-            Seen.refused(x, "count(" + bad + ")", -100, y -> y.count(bad));
         }
         x.adds(1, 0, 0, 0, 100);
         for (int i = 0; i < 20; i++) {

@@ -261,11 +261,11 @@ public final class EdgesWorkTest {
             y -> y.sets(1, 7, 8, 20, 21), y -> y.sets(0, 2, 9, 20, 21), y -> y.refers(2, 10, 20, 21),
             y -> y.cuts(0, 2, 20, 21), y -> y.cuts(1, 7, 45, 46), y -> y.shifts(0, 2, 5), y -> y.shifts(1, 7, 5),
             y -> y.joins(0), y -> y.joins(1), y -> y.way(1), y -> y.way(2), y -> work(y, "w1j0")};
-        PeriodTables x = some();
-        x.adds(0, 2, 9, 40, 42);
-        x.adds(0, 2, 9, 42, 44);
-        String ahead = Seen.rows(x) + x.count(2);
         for (int k = 0; k < calls.length; k++) {
+            PeriodTables x = some();
+            x.adds(0, 2, 9, 40, 42);
+            x.adds(0, 2, 9, 42, 44);
+            String ahead = Seen.rows(x) + x.count(2);
             Due.is("call " + k + " is done", true, calls[k].on(x) >= 0);
             Due.is("6 can be undone", 6, x.count(7));
             Due.is("undo() of call " + k, 5, x.undo());
